@@ -727,9 +727,13 @@ public final class FieldsByDots {
         private boolean isTouching(int i, int j) {
             int iEnd = next(i);
             int jEnd = next(j);
-            return isCrossing(i, iEnd, j, jEnd)
-                    || isBetween(i, iEnd, j) || isBetween(i, iEnd, jEnd)
-                    || isBetween(j, jEnd, i) || isBetween(j, jEnd, iEnd);
+            int begin = sideOf(i, iEnd, j);
+            int end = sideOf(i, iEnd, jEnd);
+            if (begin == 0 && end == 0) {
+                return isBetween(i, iEnd, j) || isBetween(i, iEnd, jEnd)
+                        || isBetween(j, jEnd, i);
+            }
+            return begin * end <= 0 && sideOf(j, jEnd, i) * sideOf(j, jEnd, iEnd) <= 0;
         }
 
         /** Twice what is enclosed; below 0 if it goes to the right. */
@@ -1049,6 +1053,7 @@ public final class FieldsByDots {
             return 1L << (62 - rank);
         }
 
+        /** The place of the part from corner 0 on to the last one: all of the field. */
         private int whole() {
             return size - 1;
         }

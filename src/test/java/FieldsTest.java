@@ -214,6 +214,7 @@ public final class FieldsTest {
     D.due("move to where it is", x.move(1, 1, 15, 0), 0);
     D.dueTold("not moved", x, 1, "00f004");
     D.due("move onto another", x.move(1, 1, 0, 4), -3);
+    D.due("move onto the first", x.move(1, 1, 0, 0), -3);
     D.due("move(1, 0, 16, 0)", x.move(1, 0, 16, 0), -2);
     D.due("move(1, 0, 0, 16)", x.move(1, 0, 0, 16), -2);
     D.due("move(1, 0, -1, 0)", x.move(1, 0, -1, 0), -2);
@@ -250,6 +251,7 @@ public final class FieldsTest {
     D.due("put(2, 0, 1, 16)", x.put(2, 0, 1, 16), -2);
     D.due("put(2, 0, -1, 1)", x.put(2, 0, -1, 1), -2);
     D.due("put(2, 0, 1, -1)", x.put(2, 0, 1, -1), -2);
+    D.due("put(2, 0, 4, 4)", x.put(2, 0, 4, 4), -3);
     D.due("put(2, 0, 5, 5)", x.put(2, 0, 5, 5), -3);
     D.due("put(2, 4, 6, 6)", x.put(2, 4, 6, 6), -3);
     D.dueTold("refused, not put", x, 2, "44705566");
@@ -339,5 +341,7 @@ public final class FieldsTest {
     x.put(2, 0, 0, 15);
     D.due("shift(2, 15, -15)", x.shift(2, 15, -15), 1);
     D.dueTold("from edge to edge", x, 2, "f0");
+    D.due("shift(2, -15, 15)", x.shift(2, -15, 15), 1);
+    D.dueTold("and back", x, 2, "0f");
   }
 }

@@ -107,6 +107,8 @@ public final class ShapesTest {
     dueAbout("0020404404", 32, 1, 16, 9, 0, 1);
     dueAbout("0020404244240402", 32, 1, 16, 9, 0, 4);
     dueAbout("0402002040424424", 32, 1, 16, 9, 0, 4);
+    dueAbout("2040440400", 32, 1, 16, 9, 0, 1);
+    dueAbout("222404004042", 24, 1, 16, 5, 1, 0);
     // fences of 1, 1 and 3 steps; of 3, 9 and 6
     dueAbout("001463", 21, 0, 5, 9, 0, 0);
     dueAbout("00636c", 54, 1, 18, 19, 0, 0);
@@ -243,14 +245,15 @@ public final class ShapesTest {
     D.due("narrow(3, 2) of " + text, x.narrow(3, 2), b + 100);
   }
 
-  /** By two corners, (0, 0) and this one. */
-  private static void dueNarrowOfTwo(int x1, int y1, int wide, int a, int b) {
+  /** Two corners make no text of a field: they are put. */
+  private static void dueNarrowOfTwo(String two, int wide, int a, int b) {
     FieldsByDots x = new FieldsByDots();
-    x.put(0, 0, 0, 0);
-    x.put(0, 1, x1, y1);
-    D.due("narrow(0, 0) of two", x.narrow(0, 0), wide);
-    D.due("narrow(0, 1) of two", x.narrow(0, 1), a);
-    D.due("narrow(0, 2) of two", x.narrow(0, 2), b + 100);
+    for (int i = 0; i < 4; i += 2) {
+      x.put(0, 0, Character.digit(two.charAt(i), 16), Character.digit(two.charAt(i + 1), 16));
+    }
+    D.due("narrow(0, 0) of " + two, x.narrow(0, 0), wide);
+    D.due("narrow(0, 1) of " + two, x.narrow(0, 1), a);
+    D.due("narrow(0, 2) of " + two, x.narrow(0, 2), b + 100);
   }
 
   private static void promise17Narrow() {
@@ -262,10 +265,16 @@ public final class ShapesTest {
     dueNarrow("001f0f10", 1, 1, 0);
     dueNarrow("00f10110", 1, 0, -1);
     dueNarrow("002244", 0, 1, -1);
-    dueNarrowOfTwo(8, 9, 0, 9, -8);
-    dueNarrowOfTwo(9, 8, 0, 8, -9);
+    // of like ones: (1, -1) and (1, 0); (1, 0) and (1, 1); (3, -2), (4, -3) and (7, -5)
+    dueNarrow("113234", 2, 1, -1);
+    dueNarrow("224124", 2, 1, 0);
+    dueNarrow("205477", 1, 3, -2);
+    dueNarrowOfTwo("0089", 0, 9, -8);
+    dueNarrowOfTwo("0098", 0, 8, -9);
+    dueNarrowOfTwo("0980", 0, 9, 8);
+    dueNarrowOfTwo("0890", 0, 8, 9);
     // 10 and -11 are too steep
-    dueNarrowOfTwo(11, 10, 1, 1, -1);
+    dueNarrowOfTwo("00ba", 1, 1, -1);
     FieldsByDots x = Due.with(SQUARE);
     D.due("narrow(0, 3)", x.narrow(0, 3), -2);
     D.due("narrow(0, -1)", x.narrow(0, -1), -2);

@@ -73,7 +73,8 @@ public final class TwoTest {
     dueAlike("0020404404", "0010404404", 0, 0);
     dueAlike("0010404404", "0030404404", 1, 1);
     dueAlike(SQUARE, "004004", 0, 0);
-    // the first three corners fit, the fourth one does not
+    // all corners but one fit: the third, in line with the first two; the fourth
+    dueAlike("00103004", "00104004", 0, 0);
     dueAlike("00404404", "00404403", 0, 0);
     dueAlike("00404403", "00404402", 0, 0);
   }
