@@ -96,6 +96,9 @@ public final class SightsTest {
     dueLeast(YOU, 4, 5, 14, 24, 57);
     dueLeast("0040634604", 13, 14);
     dueLeast("205073562603", 2, 4, 24);
+    // like ones: 4, 14, 24; 14, 15, 24
+    dueLeast("300325364563", 2, 24, 25);
+    dueLeast("533303011030", 13, 15, 35);
   }
 
   private static void promise22Refused() {
