@@ -301,6 +301,9 @@ public final class TermsBoundsTest {
         "is 0 001001", "about 0 3 = 0", "is 1 00f0ff0f", "about 1 3 = 196",
         "is 2 00f00f", "about 2 3 = 91",
         "is 3 00f1fe", "about 3 3 = 91");
+    S.holds("DOTS on FENCES, DOTS within, of one that goes to the right",
+        "is 0 000110", "about 0 2 = 3", "about 0 3 = 0",
+        "is 1 0ffff000", "about 1 2 = 60", "about 1 3 = 196");
   }
 
   private static void part2SticksIn() {
@@ -314,6 +317,9 @@ public final class TermsBoundsTest {
     S.holds("the same at the first CORNER",
         "is 0 8700f0ff", "how 0 0 = 2", "is 1 8800f0ff", "how 1 0 = 1",
         "is 2 7800f0ff", "how 2 0 = 0");
+    S.holds("the first CORNER counts among those that STICK IN, that are FLAT; the last, too",
+        "is 0 8700f0ff", "about 0 4 = 1", "is 1 8800f0ff", "about 1 5 = 1",
+        "is 2 00f0ff87", "about 2 4 = 1", "is 3 00f0ff88", "about 3 5 = 1");
     S.holds("the same, to the right",
         "is 0 87fff000", "how 0 0 = 2", "is 1 88fff000", "how 1 0 = 1",
         "is 2 78fff000", "how 2 0 = 0");
@@ -389,6 +395,18 @@ public final class TermsBoundsTest {
         "is 0 004042222404", "sees 0 1 5 = 1", "strip 0 1 5 = 0", "sees 0 2 4 = 0",
         "is 1 005052222505", "sees 1 1 5 = 0", "strip 1 1 5 = 0",
         "is 2 003032222303", "sees 2 1 5 = 1", "strip 2 1 5 = 1");
+    S.holds("by one that is the first CORNER, the last one",
+        "is 0 222404004042", "sees 0 2 4 = 1", "strip 0 2 4 = 0",
+        "is 1 240400404222", "sees 1 1 3 = 1", "strip 1 1 3 = 0",
+        "is 2 242606006064", "sees 2 2 4 = 1", "strip 2 2 4 = 0",
+        "is 3 260600606424", "sees 3 1 3 = 1", "strip 3 1 3 = 0");
+    S.holds("beyond only at its beginning: over the first FENCE, over the last one",
+        // from (8, 6) to (0, 8), over the fence from (6, 2) to (6, 8)
+        "is 0 62680800a0a68682", "sees 0 6 2 = 0", "sees 0 2 6 = 0",
+        "is 1 680800a0a6868262", "sees 1 5 1 = 0", "sees 1 1 5 = 0");
+    S.holds("half of it beyond: by a CORNER in its midst, over a FENCE in its midst",
+        "is 0 002022121102", "sees 0 5 2 = 0", "sees 0 5 3 = 0", "sees 0 3 2 = 1",
+        "is 1 11211222323000", "sees 1 0 3 = 0", "sees 1 3 0 = 0");
     S.holds("along FENCES in one line, by FLAT CORNERS",
         "is 0 0010203040506070800f",
         "sees 0 0 8 = 1", "sees 0 8 0 = 1", "strip 0 0 8 = 0", "sees 0 1 7 = 1",
@@ -412,6 +430,9 @@ public final class TermsBoundsTest {
         // the same with a DOT more, and less
         "is 1 004042332404", "strip 1 1 5 = 1",
         "is 2 004042112404", "sees 2 1 5 = 0", "strip 2 1 5 = 0");
+    S.holds("no CORNER lies on it otherwise: a tip from above, next to both",
+        "is 0 00202123110301", "sees 0 2 6 = 1", "strip 0 2 6 = 0", "strip 0 2 4 = 1",
+        "is 1 00202123120301", "sees 1 2 6 = 1", "strip 1 2 6 = 1");
     S.holds("no part of a FENCE lies on it otherwise",
         "is 0 00204004", "sees 0 0 2 = 1", "strip 0 0 2 = 0");
     S.holds("all pairs of ten CORNERS but those at FENCES",
@@ -424,6 +445,9 @@ public final class TermsBoundsTest {
     S.holds("of 4 one STRIP",
         "is 0 00404404", "about 0 7 = 2", "about 0 8 = 32", "least 0 0 = 2", "least 0 1 = -9",
         "is 1 00205004", "about 1 6 = 1", "about 1 7 = 1", "about 1 8 = 20", "least 1 0 = 13");
+    S.holds("of 6, of 8: only sets of STRIPS",
+        "is 0 004042222404", "about 0 6 = 5", "about 0 7 = 4", "about 0 8 = 24",
+        "is 1 0060664642222606", "about 1 6 = 8", "about 1 7 = 8", "about 1 8 = 76");
     S.holds("of 10 seven STRIPS",
         "is 0 5080b2d5d8bb8d5d2b08", "about 0 7 = 1430", "least 0 7 = -9");
     S.holds("of 10 with but one way: all from the last CORNER",
@@ -442,6 +466,8 @@ public final class TermsBoundsTest {
         "turn 0 1 = 4", "least 0 0 = 2");
     S.holds("THE FIRST of these, by its first STRIP: 02 ahead of 13",
         "is 0 04004044", "least 0 0 = 2", "is 1 40440400", "least 1 0 = 2");
+    S.holds("by its first STRIP: 02 with 24 ahead of 03 with 13, 66 both",
+        "is 0 4084563604", "about 0 8 = 66", "least 0 0 = 2", "least 0 1 = 24");
     S.holds("then the second ..: 02 with 03 or 24, which are 5 long both",
         "is 0 0220424505", "about 0 8 = 41", "least 0 0 = 2", "least 0 1 = 3", "least 0 2 = -9");
   }
@@ -503,6 +529,9 @@ public final class TermsBoundsTest {
     S.holds("CORNERS onto CORNERS: a FLAT one has none to go onto",
         "is 0 00404404", "is 1 0020404404", "alike 0 1 = 0", "alike 1 0 = 0",
         "mirrored 0 1 = 0");
+    S.holds("CORNERS onto CORNERS: the first three of them in one line",
+        "is 0 0020404404", "alike 0 0 = 1", "is 1 0010404404", "alike 0 1 = 0",
+        "is 2 00103004", "is 3 00104004", "alike 2 2 = 1", "alike 2 3 = 0", "alike 3 2 = 0");
     S.holds("MIRRORED: 1, if such a map with -1 does it",
         "is 0 003012", "is 1 023210", "mirrored 0 1 = 1", "alike 0 1 = 1",
         "is 2 003032", "mirrored 0 2 = 0", "alike 0 2 = 1",

@@ -109,8 +109,8 @@ public final class TwoBoundsTest {
     S.holds("31: UNKNOWN", "keep 0 = 0", "keep 1 = 0", "again -1 = -1", "again 2 = -1",
         "again MIN = -1", "again MAX = -1");
     S.holds("31: STATE: none were kept: in neither, in the other one",
-        "is 0 001001", "again 0 = -3", "again 1 = -3", "told 0 001001", "keep 1 = 3",
-        "again 0 = -3", "again 1 = 3");
+        "is 0 001001", "is 1 00404404", "is 2 00ff", "is 3 77", "again 0 = -3", "again 1 = -3",
+        "told 0 001001", "told 3 77", "keep 1 = 10", "again 0 = -3", "again 1 = 10");
     S.holds("31: UNKNOWN ahead of STATE", "again -1 = -1", "again 2 = -1");
   }
 
