@@ -1,12 +1,20 @@
+import java.io.IOException;
 import java.lang.reflect.Constructor;
 import java.lang.reflect.Field;
 import java.lang.reflect.Method;
 import java.lang.reflect.Modifier;
+import java.nio.file.Files;
+import java.nio.file.Path;
 import java.util.Arrays;
 import java.util.Set;
 import java.util.TreeSet;
+import java.util.regex.Matcher;
+import java.util.regex.Pattern;
 
-/** The class has the public face of the document, and nothing else that can be seen (rule 1). */
+/**
+ * The class has the public face of the document, and nothing else that can be seen (rule 1). The
+ * face stands here too, so that a document that could not be read would be found out.
+ */
 public final class FaceTest {
   private static final String[] FACE = {
     "int write(int,long)", "int wipe()", "int fault()", "int field(int)",
@@ -20,7 +28,11 @@ public final class FaceTest {
     "int UNKNOWN", "int OUTSIDE", "int STATE", "int FULL", "int NONE", "FieldsByDots()",
   };
 
-  public static void main(String[] args) {
+  private static final Path DOCUMENT = Path.of("../shared/DOC.md");
+  private static final Pattern METHOD = Pattern.compile("public (\\w+) (\\w+)\\((.*)\\);");
+  private static final Pattern CONSTANT = Pattern.compile("(\\b[A-Z]+) = (-\\d+)");
+
+  public static void main(String[] args) throws IOException, ReflectiveOperationException {
     Due d = new Due("FaceTest");
     Class<?> face = FieldsByDots.class;
     d.due("public final", face.getModifiers() & (Modifier.PUBLIC | Modifier.FINAL),
@@ -35,8 +47,37 @@ public final class FaceTest {
     if (!got.equals(want)) {
       d.fail("the face is " + got + ", due is " + want);
     }
+    checkDocument(d, want);
     checkNames(d, face);
     d.end();
+  }
+
+  /** The document's own face is the one that stands here, and its constants have its values. */
+  private static void checkDocument(Due d, Set<String> want) throws IOException,
+      ReflectiveOperationException {
+    String page = Files.readString(DOCUMENT);
+    int begin = page.indexOf("```java");
+    String block = page.substring(begin, page.indexOf("```", begin + 3));
+    Set<String> told = new TreeSet<>();
+    Matcher method = METHOD.matcher(block);
+    while (method.find()) {
+      // of each parameter its type, without its name
+      String types = method.group(3).replaceAll(" \\w+(,|$) ?", "$1");
+      told.add(method.group(1) + " " + method.group(2) + "(" + types + ")");
+    }
+    if (block.contains("public FieldsByDots();")) {
+      told.add("FieldsByDots()");
+    }
+    Matcher constant = CONSTANT.matcher(block);
+    while (constant.find()) {
+      told.add("int " + constant.group(1));
+      d.due("the document's " + constant.group(1),
+          FieldsByDots.class.getField(constant.group(1)).getInt(null),
+          Integer.parseInt(constant.group(2)));
+    }
+    if (!told.equals(want)) {
+      d.fail("the document's face is " + told + ", here stands " + want);
+    }
   }
 
   private static Set<String> seen(Class<?> face) {
